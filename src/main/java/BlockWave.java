@@ -863,7 +863,7 @@ public final class BlockWave {
             takeShape(2, 0);
         }
 
-        /** takeShape() must follow: the stages come of the size, too. */
+        /** takeShape() must follow, if only in a copy: the stages come of the size, too. */
         void takeSize(int points) {
             size = points;
             log = 1;
@@ -988,11 +988,12 @@ public final class BlockWave {
             backward = false;
         }
 
-        /** A trial, as those that follow: what it was itself is not told of it. */
+        /** For a trial: what a trial itself was is never asked. */
         void restartFrom(Wave other) {
             begin(other.wasRe, other.wasIm);
         }
 
+        /** For a trial, too. */
         void goOnFrom(Wave other) {
             begin(other.re, other.im);
             exp = other.exp;
@@ -1300,7 +1301,6 @@ public final class BlockWave {
                 lines++;
                 nextToken(tape);
             }
-            way.takeShape(way.radix, way.order);
             return lines;
         }
 

@@ -183,6 +183,9 @@ public final class PromisesTest {
         Due.fault("siz 4;", 1, 0);
         Due.fault("sizes 4;", 1, 0);
         Due.fault("radixx 4;", 1, 0);
+        for (String word : new String[] {"size", "bits", "radix", "order", "near", "seed", "real", "less", "side", "down"}) {
+            otherWords(word);
+        }
         Due.fault(" 4;", 1, 1);
         Due.fault(";", 1, 0);
         Due.fault("size ;", 1, 5);
@@ -241,6 +244,18 @@ public final class PromisesTest {
         Due.fault("less 0 0;real 00 99999;", 3, 14);
         Due.fault("side 1 1;down 1 1;", 3, 14);
         Due.fault("down 1 1;side 1", 3, 14);
+    }
+
+    /** One letter less, one more, another, or a great one. */
+    private static void otherWords(String word) {
+        Due.fault(word + "s 0 0;", 1, 0);
+        Due.fault(" " + word.substring(1) + " 0 0;", 1, 1);
+        for (int at = 0; at < word.length(); at++) {
+            String ahead = word.substring(0, at);
+            String behind = word.substring(at + 1);
+            Due.fault(ahead + "y" + behind + " 0 0;", 1, 0);
+            Due.fault(ahead + "Y" + behind + " 0 0;", 1, 0);
+        }
     }
 
     private static void p5() {
@@ -418,6 +433,11 @@ public final class PromisesTest {
         w = Due.told(ONE + "near 0;order 1;");
         w.beatAll();
         Due.points("cut, order 1", w, cutBehind);
+        // 7487 times 11585 is 1 less than 5294 times 16384; 705 and 8192 of them are at the edge of two halves.
+        Due.is("cut, just below", done("size 8;near 0;real 1 7487;").point(1, 0), 5293);
+        Due.is("nearest, just below a half", done("size 8;less 1 705;").point(1, 0), -499);
+        Due.is("nearest, a half", done("size 8;real 1 8192;").point(1, 0), 5793);
+        Due.is("nearest, a half below 0", done("size 8;less 1 8192;").point(1, 0), -5792);
         // One point at a place is the same turn at all sizes, radices, orders, if it is great enough to see them all.
         for (int size = 2; size <= 32; size *= 2) {
             for (String shape : shapes) {
@@ -706,6 +726,19 @@ public final class PromisesTest {
         // 32767 times 4799 by 32768 is 4798.85; times 27969 below 0 is -27968.15.
         Due.is("of 8: 1", w.point(1, 0), 4799);
         Due.is("of 8: 3", w.point(3, 0), -27968);
+        // 4799 times 25281 is just below a half of 32768 at the end, times 16384 a half; times 8897 cut just below.
+        w = Due.told("size 8;real 1 25281;side 1 16384;less 7 16384;down 7 7487;");
+        w.taper();
+        Due.is("just below a half", w.point(1, 0), 3702);
+        Due.is("a half", w.point(1, 1), 2400);
+        Due.is("a half below 0", w.point(7, 0), -2399);
+        Due.is("just below a half below 0", w.point(7, 1), -1097);
+        w = Due.told("size 8;near 0;real 1 8897;side 1 16384;less 7 16384;down 7 7487;");
+        w.taper();
+        Due.is("cut, just below", w.point(1, 0), 1302);
+        Due.is("cut, a half", w.point(1, 1), 2399);
+        Due.is("cut, a half below 0", w.point(7, 0), -2400);
+        Due.is("cut, below 0", w.point(7, 1), -1097);
         w.beat();
         Due.no("a stage is done", w.taper());
         w.beatAll();
@@ -786,6 +819,12 @@ public final class PromisesTest {
             Due.is("by the seed of the text, exp " + exp, w.noise(-1, exp), w.noise(7, exp));
         }
         Due.is("all stays", w.point(0, 0) + w.count(6), 50);
+        // The last amount of all, with this seed.
+        w = Due.told("size 2;bits 9;real 0 20;");
+        Due.is("noise(29, 1)", w.noise(29, 1), leastAmount(w, 29, 1));
+        for (int seed = 0; seed < 40; seed++) {
+            Due.is("noise(" + seed + ", 1)", w.noise(seed, 1), leastAmount(w, seed, 1));
+        }
     }
 
     private static int leastAmount(BlockWave w, int seed, int exp) {
@@ -808,6 +847,32 @@ public final class PromisesTest {
         Due.is("radix 2", Due.told("size 4;bits 8;radix 4;real 0 43;").best(), 0);
         // 103: by radix 2 twice halved, 25 by cut (100), 26 by nearest (104): 1 off; by radix 4 thrice, 12 (96), 13 (104).
         Due.is("of 103", Due.told("size 4;bits 8;real 0 103;").best(), 1);
+        String[] texts = {"size 16;bits 8;real 0 17;real 1 88;less 2 103;", "size 8;bits 8;less 0 19;real 1 20;real 2 70;real 3 116;",
+            "size 8;bits 8;real 0 114;less 1 96;real 2 92;real 3 98;", "size 8;bits 8;less 0 26;real 1 112;less 2 90;real 3 92;",
+            "size 8;bits 8;less 0 71;less 1 49;less 2 36;real 3 10;", "size 8;bits 8;real 0 11;less 1 55;real 2 41;less 3 83;",
+            "size 8;bits 8;less 0 24;real 1 76;less 2 62;real 3 86;", "size 8;bits 8;less 0 64;less 1 48;real 2 109;less 3 18;"};
+        for (int way = 0; way < 8; way++) {
+            Due.is("each way is the best of some: " + texts[way], bestByTelling(texts[way]), way);
+            BlockWave w = Due.told(texts[way]);
+            Due.is("best() of " + texts[way], w.best(), way);
+            w.beatAll();
+            Due.is("best(), done, of " + texts[way], w.best(), way);
+        }
+    }
+
+    /** Each way told and run, the least of what is worst. */
+    private static int bestByTelling(String text) {
+        int best = 0;
+        long least = Long.MAX_VALUE;
+        for (int way = 0; way < 8; way++) {
+            String told = "order " + way / 4 + ";radix " + (way / 2 % 2 == 1 ? 4 : 2) + ";near " + way % 2 + ";";
+            long worst = done(text + told).worst(0);
+            if (worst < least) {
+                least = worst;
+                best = way;
+            }
+        }
+        return best;
     }
 
     private static void p30() {
@@ -1223,6 +1288,9 @@ public final class PromisesTest {
         for (int seed : new int[] {0, 1, 2, 7, 12345, MOST}) {
             Due.is("chance(" + seed + ", 1, 1)", w.chance(seed, 1, 1), timesOneMore(seed));
         }
+        Due.tell(w, "size 2;bits 8;real 0 50;");
+        Due.is("the seed of a text that tells none", w.chance(-1, 1, 1), timesOneMore(0));
+        Due.yes("which is not as by 7", timesOneMore(0) != timesOneMore(7));
         // LIMIT at most: 127 stays 127, which is halved twice, not thrice.
         w = Due.told("size 2;bits 8;real 0 127;less 1 127;");
         Due.is("not above LIMIT", w.chance(5, 99, 3), 0);
