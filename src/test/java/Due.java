@@ -68,6 +68,55 @@ final class Due {
         return wave;
     }
 
+    /** Told, and all stages done. */
+    static BlockWave done(String text) {
+        BlockWave wave = told(text);
+        wave.beatAll();
+        return wave;
+    }
+
+    /** Done, and gone back, no stage of which is done. */
+    static BlockWave gone(String text) {
+        BlockWave wave = done(text);
+        yes("turnBack() of '" + text + "'", wave.turnBack());
+        return wave;
+    }
+
+    /** Numbers that are none of 0 .. (count less 1), the nearest and the farthest. */
+    static int[] outside(int count) {
+        return new int[] {-1, count, -2, count + 1, Integer.MIN_VALUE, Integer.MAX_VALUE};
+    }
+
+    /** All that can be seen of an object without changing it. */
+    static String seen(BlockWave wave) {
+        StringBuilder all = new StringBuilder();
+        int size = wave.count(0);
+        for (int place = 0; place < size; place++) {
+            for (int what = 0; what <= 3; what++) {
+                all.append(wave.point(place, what)).append(' ');
+            }
+        }
+        for (int what = 0; what <= 12; what++) {
+            all.append(wave.count(what)).append(' ');
+        }
+        for (int stage = 0; stage < 5; stage++) {
+            all.append(wave.stage(stage, 1)).append(' ');
+        }
+        return all.append(wave.fault(0)).append(' ').append(wave.fault(1)).append(' ').append(wave.values(0)).toString();
+    }
+
+    /** Nothing that can be seen is another behind these calls. */
+    static void stays(String calls, BlockWave wave, Runnable called) {
+        String before = seen(wave);
+        called.run();
+        String behind = seen(wave);
+        asked++;
+        if (!behind.equals(before)) {
+            wrong++;
+            System.out.println(calls + " left " + behind + ", due is " + before);
+        }
+    }
+
     static void fault(String text, int which, int place) {
         BlockWave wave = new BlockWave();
         is("text of '" + text + "'", tell(wave, text), -1);

@@ -4,7 +4,8 @@ import java.util.Random;
 /** Runs by chance (always the same ones): the class must answer every call as the model does. */
 public final class RandomRunsTest {
     private static final int RUNS = 1500;
-    private static final int CALLS = 511;
+    /** An object is good for 512 calls; looking at all points and counts at once is the most that one step can take. */
+    private static final int CALLS = 512 - (4 * 32 + 13);
     private static final int[] EDGES = {-1, -2, Integer.MIN_VALUE, Integer.MAX_VALUE, 31, 32, 33, 96, 97, 20, 21, 99, 100};
 
     private final Random random;
@@ -201,6 +202,7 @@ public final class RandomRunsTest {
             }
             calls += 4;
         }
+        calls += 12;
         for (int what = 0; what <= 12; what++) {
             gotten = gotten * 31 + wave.count(what);
             wanted = wanted * 31 + model.count(what);

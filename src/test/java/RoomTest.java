@@ -1,28 +1,32 @@
 import com.sun.management.ThreadMXBean;
 import java.lang.management.ManagementFactory;
+import java.util.NoSuchElementException;
 
-/** No call makes rows or objects: all calls of a run live in one room. */
+/** All calls of a run live in one room: 512 of even the dearest call make less than 7.3 million elements. */
 public final class RoomTest {
+    private static final int CALLS = 470;
+    /** Elements of four bytes each; what is larger or has a head of its own only makes it stricter. */
+    private static final long ROOM = 7_300_000L * 4;
+    private static final ThreadMXBean BEAN = (ThreadMXBean) ManagementFactory.getThreadMXBean();
+
     private RoomTest() {
     }
 
     public static void main(String[] args) {
-        ThreadMXBean bean = (ThreadMXBean) ManagementFactory.getThreadMXBean();
         long self = Thread.currentThread().getId();
-        askAll(loud());
-        long before = bean.getThreadAllocatedBytes(self);
-        BlockWave wave = loud();
-        long made = bean.getThreadAllocatedBytes(self) - before;
-        Due.yes("one object in 40,000 bytes: " + made, made < 40000);
-        before = bean.getThreadAllocatedBytes(self);
-        for (int i = 0; i < 10; i++) {
-            askAll(wave);
+        for (int which = 0; which < 24; which++) {
+            long before = BEAN.getThreadAllocatedBytes(self);
+            BlockWave wave = loud();
+            for (int call = 0; call < CALLS; call++) {
+                one(wave, which, call);
+            }
+            long made = BEAN.getThreadAllocatedBytes(self) - before;
+            Due.yes("a run of call " + which + " made " + made + " bytes", made < ROOM);
         }
-        long asked = bean.getThreadAllocatedBytes(self) - before;
-        Due.yes("asking makes nothing: " + asked, asked < 2000);
         Due.end("RoomTest");
     }
 
+    /** The most points, as loud as can be: 34 calls. */
     private static BlockWave loud() {
         BlockWave wave = new BlockWave();
         wave.feed(0x73697A65, 0x2033323B, 0x20202020, 0x20202020, 0x20202020);
@@ -33,13 +37,40 @@ public final class RoomTest {
         return wave;
     }
 
-    private static long askAll(BlockWave wave) {
-        long sum = wave.noise(-1, 20) + wave.chance(-1, 9, 4) + wave.best() + wave.loudest() + wave.bits();
-        sum += wave.apart() + wave.returned() + wave.tried(3, 0) + wave.tried(4, 0) + wave.sweep(8) + wave.grown(5);
-        sum += wave.note(3, 4, true) + wave.values(3) + wave.ask(3, 2) + wave.unfold(1, 2, 3) + wave.fold(3) + wave.lag();
-        sum += wave.keep() + wave.beatAll() + wave.worst(0) + wave.peak(31) + wave.mirror() + wave.period() + wave.back();
-        sum += wave.beat() + wave.undo() + wave.ahead(5, 1) + wave.energy(0) + wave.swing(3, 0);
-        sum += wave.taper() && wave.shift(3) && wave.turnRound() ? wave.undo() + wave.undo() + wave.undo() : 0;
-        return sum + wave.feed(0x3F3F3F3F, 0, 0, 0, 0) + wave.text(20) + wave.fault(1);
+    private static void one(BlockWave wave, int which, int call) {
+        switch (which) {
+            case 0: wave.noise(-1, 20); break;
+            case 1: wave.chance(-1, 99, 4); break;
+            case 2: wave.best(); break;
+            case 3: wave.loudest(); break;
+            case 4: wave.bits(); break;
+            case 5: wave.apart(); break;
+            case 6: wave.returned(); break;
+            case 7: wave.tried(3 + call % 2, 0); break;
+            case 8: wave.sweep(8); break;
+            case 9: wave.grown(5); break;
+            case 10: if (call < 24) wave.note(call % 32, call % 97, true); else wave.values(call % 32); break;
+            case 11: if (call < 24) wave.note(call % 32, call % 97, true); else wave.ask(call % 32, 2); break;
+            case 12: wave.ahead(5, 1); break;
+            case 13: if (call < 5) wave.beat(); else wave.worst(0); break;
+            case 14: if (call < 5) wave.beat(); else wave.peak(31); break;
+            case 15: wave.period(); break;
+            case 16: wave.lag(); break;
+            case 17: if (call % 2 == 0) wave.set(3, call, call); else wave.undo(); break;
+            case 18: wave.taper(); break;
+            case 19: wave.shift(5); break;
+            case 20: if (call % 2 == 0) wave.keep(); else wave.back(); break;
+            case 21: if (call % 2 == 0) wave.feed(call, call, call, call, call); else wave.text(20); break;
+            case 22: if (call % 2 == 0) wave.feed(0x20202020, 0x20202020, 0x20202020, 0x20202020, 0x20202020); else wave.text(20); break;
+            default: thrown(wave, call); break;
+        }
+    }
+
+    private static void thrown(BlockWave wave, int call) {
+        try {
+            wave.point(call % 2 == 0 ? 32 : 0, 4);
+        } catch (IndexOutOfBoundsException | NoSuchElementException e) {
+            Due.yes("thrown", true);
+        }
     }
 }
