@@ -663,6 +663,8 @@ final class EdgesOfPoints {
             for (String word : new String[] {"real", "less", "side", "down"}) {
                 for (int place = 0; place < 2; place++) {
                     BlockWave w = Due.told("size 2;bits 8;" + word + " " + place + " " + more + ";");
+                    // One beside it that could be louder stays, too.
+                    w.set(1 - place, 3, -3);
                     int by = times;
                     Due.stays("louder", w, () -> Due.no(word + " " + more + " by " + by, w.louder(by)));
                 }

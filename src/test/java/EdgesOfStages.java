@@ -16,6 +16,9 @@ final class EdgesOfStages {
         Due.is("beat()", w.beat(), 1);
         // 25 and -26, 0 and -1.
         Due.points("halved", w, 25, -27, 25, -25);
+        w = Due.told("size 2;bits 8;near 0;less 0 51;side 0 51;less 1 1;side 1 1;");
+        Due.is("beat()", w.beat(), 1);
+        Due.points("halved, the other way round", w, -27, 25, -25, 25);
     }
 
     @Edge("(x and 1) by 2, rounded down, by NEAREST.")
@@ -24,6 +27,9 @@ final class EdgesOfStages {
         Due.is("beat()", w.beat(), 1);
         // 26 and -25, 1 and 0.
         Due.points("halved", w, 27, -25, 25, -25);
+        w = Due.told("size 2;bits 8;near 1;less 0 51;side 0 51;less 1 1;side 1 1;");
+        Due.is("beat()", w.beat(), 1);
+        Due.points("halved, the other way round", w, -25, 27, -25, 25);
         w = Due.told("size 2;bits 8;near 1;real 0 52;down 0 52;real 1 2;down 1 2;");
         Due.is("beat()", w.beat(), 1);
         Due.points("even ones", w, 27, -27, 25, -25);

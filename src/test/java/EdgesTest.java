@@ -25,7 +25,7 @@ public final class EdgesTest {
     private static final Pattern NAMES_AN_EDGE = Pattern.compile("NONE|-2|-1|MIN_VALUE|\\bfalse\\b|\\w+Exception|at most|at least"
             + "|\\d \\.\\. \\w|modulo|first of several|first is ahead|more than|as long as|rounded|no such|too much|none\\b|nothing"
             + "|at first|without|Without|in place of|empty|no more|from the end|above|below|beyond|another|already|isn't|all were"
-            + "|already|must come|can't|if it is 0|less than|latest|stays|times 2|the first k|is 0 and t 0|\\b(?:20|24|512|700)\\b");
+            + "|must come|can't|if it is 0|less than|latest|stays|times 2|the first k|is 0 and t 0|\\b(?:20|24|512|700)\\b");
 
     private EdgesTest() {
     }
