@@ -1,4 +1,5 @@
 import com.sun.source.tree.AssertTree;
+import com.sun.source.tree.BinaryTree;
 import com.sun.source.tree.CatchTree;
 import com.sun.source.tree.ClassTree;
 import com.sun.source.tree.CompilationUnitTree;
@@ -16,6 +17,7 @@ import com.sun.source.tree.TryTree;
 import com.sun.source.tree.VariableTree;
 import com.sun.source.util.JavacTask;
 import com.sun.source.util.SourcePositions;
+import com.sun.source.util.TreePath;
 import com.sun.source.util.TreePathScanner;
 import com.sun.source.util.Trees;
 import java.lang.reflect.Constructor;
@@ -71,7 +73,8 @@ public final class RulesTest {
         for (String line : Files.readAllLines(DOCUMENT)) {
             String face = line.strip();
             if (line.startsWith("    public ") && face.endsWith(";") && !face.contains("=")) {
-                due.add(face.replaceAll(" throws .*", ";").replaceAll("(\\w+) \\w+([,)])", "$1$2"));
+                int end = face.indexOf(')');
+                due.add(face.substring(0, end + 1).replaceAll("(\\w+) \\w+([,)])", "$1$2") + face.substring(end + 1));
             }
         }
         Set<String> got = new TreeSet<>();
@@ -104,7 +107,11 @@ public final class RulesTest {
         for (Class<?> type : method.getParameterTypes()) {
             text.append(text.charAt(text.length() - 1) == '(' ? "" : ", ").append(type.getSimpleName());
         }
-        return text.append(");").toString();
+        text.append(')');
+        for (Class<?> type : method.getExceptionTypes()) {
+            text.append(text.indexOf(" throws ") < 0 ? " throws " : ", ").append(type.getSimpleName());
+        }
+        return text.append(';').toString();
     }
 
     // ---- the source
@@ -243,6 +250,24 @@ public final class RulesTest {
                 Due.yes("rule 4, signs 1 to 127: " + node, text.chars().allMatch(sign -> sign >= 1 && sign <= 127));
             }
             return super.visitLiteral(node, nothing);
+        }
+
+        @Override
+        public Void visitBinary(BinaryTree node, Void nothing) {
+            boolean texts = isOf(node.getLeftOperand(), "java.lang.String") || isOf(node.getRightOperand(), "java.lang.String");
+            boolean boxed = isOf(node.getLeftOperand(), "java.lang.Integer") && isOf(node.getRightOperand(), "java.lang.Integer");
+            boolean asked = node.getKind() == Tree.Kind.EQUAL_TO || node.getKind() == Tree.Kind.NOT_EQUAL_TO;
+            Due.no("rule 10, no texts joined by +: " + node, texts && node.getKind() == Tree.Kind.PLUS);
+            Due.no("rule 6, no == between Strings or Integers: " + node, asked && (boxed || texts && !isNull(node)));
+            return super.visitBinary(node, nothing);
+        }
+
+        private boolean isOf(Tree operand, String type) {
+            return String.valueOf(trees.getTypeMirror(new TreePath(getCurrentPath(), operand))).equals(type);
+        }
+
+        private static boolean isNull(BinaryTree node) {
+            return node.getLeftOperand().getKind() == Tree.Kind.NULL_LITERAL || node.getRightOperand().getKind() == Tree.Kind.NULL_LITERAL;
         }
 
         @Override
